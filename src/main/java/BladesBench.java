@@ -1336,7 +1336,8 @@ public final class BladesBench {
         private final long[] outcome = new long[PARTS];
 
         Pairs() {
-            Algebra.farOne(far);
+            far[4] = 1;
+            far[8] = 1;
         }
 
         /** False: a PART on the way is beyond the BOUND, or there is no POINT at its end. */
@@ -1383,7 +1384,8 @@ public final class BladesBench {
         private final long[] four = new long[PARTS];
 
         Meetings() {
-            Algebra.farOne(far);
+            far[4] = 1;
+            far[8] = 1;
         }
 
         private void tellKinds(Letters letters) {
