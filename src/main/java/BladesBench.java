@@ -397,8 +397,7 @@ public final class BladesBench {
 
     public int meetings(int what) {
         if (what == 0) return met.pointsOnObjects(now);
-        if (what == 1) return met.dependentThrees(now);
-        if (what == 2) return met.dependentFours(now);
+        if (what == 1 || what == 2) return met.dependent(now, what == 2);
         if (what == 3) return met.likePairs(now);
         if (what == 4) return met.fullestObject(now);
         return NONE;
@@ -491,10 +490,6 @@ public final class BladesBench {
         private Algebra() {
         }
 
-        private static boolean turnsSign(int a, int b) {
-            return (SIGN_TURNS[a & WHOLE_UNIT] >> b & 1) != 0;
-        }
-
         private static boolean counts(int kind, int a, int b) {
             if (kind == OUTER) return (a & b) == 0;
             if (kind == INNER) return (a & b) == a;
@@ -508,7 +503,7 @@ public final class BladesBench {
                 int b = (a ^ part) & WHOLE_UNIT;
                 if (one[a] != 0 && other[b] != 0 && counts(kind, a, b)) {
                     long term = one[a] * other[b];
-                    sum += turnsSign(a, b) ? -term : term;
+                    sum += (SIGN_TURNS[a] >> b & 1) != 0 ? -term : term;
                 }
             }
             return sum;
@@ -517,15 +512,11 @@ public final class BladesBench {
         static void multiply(int kind, long[] one, long[] other, long[] into) {
             for (int part = 0; part < PARTS; part++) into[part] = 0;
             for (int a = 0; a < PARTS; a++) {
-                if (one[a] != 0) addProducts(kind, a, one[a], other, into);
-            }
-        }
-
-        private static void addProducts(int kind, int a, long factor, long[] other, long[] into) {
-            for (int b = 0; b < PARTS; b++) {
-                if (other[b] != 0 && counts(kind, a, b)) {
-                    long term = factor * other[b];
-                    into[a ^ b] += turnsSign(a, b) ? -term : term;
+                for (int b = 0; b < PARTS && one[a] != 0; b++) {
+                    if (other[b] != 0 && counts(kind, a, b)) {
+                        long term = one[a] * other[b];
+                        into[a ^ b] += (SIGN_TURNS[a] >> b & 1) != 0 ? -term : term;
+                    }
                 }
             }
         }
@@ -543,7 +534,7 @@ public final class BladesBench {
 
         static long timesWholeUnit(long[] form, int part) {
             int a = (part ^ WHOLE_UNIT) & WHOLE_UNIT;
-            return turnsSign(a, WHOLE_UNIT) ? -form[a] : form[a];
+            return (SIGN_TURNS[a] >> WHOLE_UNIT & 1) != 0 ? -form[a] : form[a];
         }
 
         static void dual(long[] form, long[] into) {
@@ -645,8 +636,8 @@ public final class BladesBench {
         }
 
         static long gcd(long one, long other) {
-            long a = Math.abs(one);
-            long b = Math.abs(other);
+            long a = one < 0 ? -one : one;
+            long b = other < 0 ? -other : other;
             // Euclid's steps on 64 bits are fewer than a hundred.
             for (int turn = 0; turn < 100 && b != 0; turn++) {
                 long rest = a % b;
@@ -919,6 +910,7 @@ public final class BladesBench {
         private static final int TOO_DEEP = 5;
         private static final int STANDS_FOR_NONE = 7;
         private static final int PART_BEYOND = 8;
+        private static final int NO_LETTER = -1;
         private static final int NO_NUMBER = -1;
         private static final int NO_COORDINATE = 1000;
 
@@ -948,7 +940,9 @@ public final class BladesBench {
             at = 0;
             letters.become(ahead);
             for (int steps = 1; steps <= MOST_STEPS; steps++) {
-                if (!step()) return toldFault();
+                int letter = target();
+                if (letter == NO_LETTER || !sum(0)) return toldFault();
+                letters.put(letter, sums[0]);
                 if (at >= length) return steps;
                 if (next() != ';') {
                     fails(CANT_STAND, at);
@@ -974,15 +968,17 @@ public final class BladesBench {
             return at >= 0 && at < length ? text[at] : END;
         }
 
-        private boolean step() {
+        /** The LETTER ahead of a =; NO_LETTER: a FAULT. */
+        private int target() {
             int letter = next() - 'A';
-            if (letter < 0 || letter >= LETTERS) return fails(CANT_STAND, at);
-            at++;
-            if (next() != '=') return fails(CANT_STAND, at);
-            at++;
-            if (!sum(0)) return false;
-            letters.put(letter, sums[0]);
-            return true;
+            boolean named = letter >= 0 && letter < LETTERS;
+            if (named) at++;
+            if (named && next() == '=') {
+                at++;
+                return letter;
+            }
+            fails(CANT_STAND, at);
+            return NO_LETTER;
         }
 
         /** E, into the row of sums; so many signs are open around it. */
@@ -1431,15 +1427,8 @@ public final class BladesBench {
             return fullest;
         }
 
-        int dependentThrees(Letters letters) {
-            return dependent(letters, false);
-        }
-
-        int dependentFours(Letters letters) {
-            return dependent(letters, true);
-        }
-
-        private int dependent(Letters letters, boolean fours) {
+        /** Threes of POINTS on one LINE, or fours whose OUTER is 0. */
+        int dependent(Letters letters, boolean fours) {
             tellKinds(letters);
             int found = 0;
             for (int a = 0; a < LETTERS; a++) {

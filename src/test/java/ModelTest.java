@@ -218,8 +218,10 @@ public final class ModelTest {
     private int pairs() {
         int letter = letter();
         for (int tries = 0; tries < 20 && model.pair(letter, 0) <= -2_000_000_000_000_000_000L; tries++) letter = letter();
+        int first = number(0, 10);
+        same("pair " + letter + " " + first, bench.pair(letter, first), model.pair(letter, first));
         for (int what = -1; what <= 11; what++) same("pair " + letter + " " + what, bench.pair(letter, what), model.pair(letter, what));
-        return 13;
+        return 14;
     }
 
     private int powers() {

@@ -168,6 +168,13 @@ public final class PromisesTest {
         due("59 ones", bench.part(0, 0), 59);
         longest.append("+");
         due("120 bytes", work(bench, longest.toString()), -1120);
+        for (int fed = 0; fed < 7; fed++) bench.feed(0, 0, 0, 0, 0);
+        due("work 121 of 140", bench.work(121), -1);
+        due("book 121 of 140", bench.book(121), -1);
+        due("check 13 of 140", bench.check(13), -2);
+        due("the tape stays", bench.count(2), 140);
+        due("work 120 of 140", bench.work(120), -1000);
+        due("the tape is empty", bench.count(2), 0);
     }
 
     private static void workFaults() {
@@ -634,6 +641,7 @@ public final class PromisesTest {
         cosine("A=x;B=9999*x+9*y+2*x", NO_SUCH, NO_SUCH);
         cosine("A=@0,0;B=x", NO_SUCH, NO_SUCH);
         cosine("A=x;B=@0,0+f", NO_SUCH, NO_SUCH);
+        cosine("A=x;B=@0,0", NO_SUCH, NO_SUCH);
         cosine("A=f;B=x", NO_SUCH, NO_SUCH);
         cosine("A=x;B=1", NO_SUCH, NO_SUCH);
         cosine("A=x*m;B=x", NO_SUCH, NO_SUCH);
@@ -658,6 +666,7 @@ public final class PromisesTest {
         distance("A=@0,0;B=4*x-3*p+5*m", 1, 4);
         distance("A=@1,1;B=4*x-3*p+5*m", 5, 4);
         distance("A=2000*x+1000*1000*f-p+m;B=@0,0", 1000000, 1);
+        distance("A=@0,0;B=2000*x+1000*1000*f-p+m", 1000000, 1);
         distance("A=2002*x+1001*1001*f-p+m;B=@0,0", NO_SUCH, NO_SUCH);
         distance("A=@0,0;B=-2002*y+1001*1001*f-p+m", NO_SUCH, NO_SUCH);
         distance("A=@0,0;B=x", NO_SUCH, NO_SUCH);
@@ -691,6 +700,10 @@ public final class PromisesTest {
         pair("10*@0,0^@10,0", 5, 0, 1, 25, 1, 10, 0, 1, 0, 0, 1);
         // HALF and the second END are still within the BOUND, MIDDLE and the first END are not.
         pair("50*@0,0^@10,0", OTHER_KIND, OTHER_KIND, OTHER_KIND, 25, 1, OTHER_KIND, OTHER_KIND, OTHER_KIND, 0, 0, 1);
+        // B TIMES THE FAR ONE, THE FAR ONE INNER B beyond the BOUND.
+        pair("9999*9999*x*(p-m)", OTHER_KIND);
+        pair("x*((9000*8000+2)*m-(9000*8000-2)*p)", OTHER_KIND);
+        due("an END first of all", made("A=@0,0^@4,0").pair(0, 5), 4);
         for (String other : new String[] {"x", "@1,1", "0", "x*f", "x*y+p*m", "1+x*y", "w"}) pair(other, OTHER_KIND);
         BladesBench bench = made("A=@0,0^@4,0");
         due("what -1", bench.pair(0, -1), NO_SUCH);
@@ -717,6 +730,9 @@ public final class PromisesTest {
         power("@0,0-9999*f-f", 0, 0, -10000, 1);
         power("@0,0-9999*f-2*f", 0, 0, OTHER_KIND, OTHER_KIND);
         power("@0,0+9999*f+2*f", 0, 0, OTHER_KIND, OTHER_KIND);
+        power("5000*9999*f+m+2*5000*x", 0, 0, 99990001, 1);
+        power("(9999*9999+9999)*f-p+m+2*5000*2*x", 0, 0, 99990000, 1);
+        power("5000*(9999+2)*f+m+(9999+2)*x", 0, 0, OTHER_KIND, OTHER_KIND);
         power("x", 0, 0, OTHER_KIND, OTHER_KIND);
         power("f", 0, 0, OTHER_KIND, OTHER_KIND);
         power("1", 0, 0, OTHER_KIND, OTHER_KIND);
