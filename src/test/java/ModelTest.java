@@ -1,19 +1,35 @@
-import java.util.Random;
-
 /** Long drawn runs of calls, always the same ones: the class and the model answer alike. */
 public final class ModelTest {
     private static final int RUNS = 400;
     private static final int CALLS = 512;
     private static int wrong = 0;
 
-    private final Random random;
+    /** Numbers that follow from the run's number alone. */
+    private static final class Draws {
+        private long state;
+
+        Draws(int run) {
+            state = run * 0x9e3779b97f4a7c15L + 1;
+        }
+
+        int nextInt() {
+            state = state * 6364136223846793005L + 1442695040888963407L;
+            return (int) (state >>> 32);
+        }
+
+        int nextInt(int below) {
+            return (nextInt() >>> 1) % below;
+        }
+    }
+
+    private final Draws random;
     private final int run;
     private final BladesBench bench = new BladesBench();
     private final Model model = new Model();
 
     private ModelTest(int run) {
         this.run = run;
-        random = new Random(run);
+        random = new Draws(run);
     }
 
     public static void main(String[] args) {
