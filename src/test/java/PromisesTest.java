@@ -1,12 +1,5 @@
 /** Each promise by hand: ordinary inputs, the edges that the document names, wrong inputs. */
-public final class PromisesTest {
-    private static final long NO_SUCH = -2_000_000_000_000_000_000L;
-    private static final long OTHER_KIND = -3_000_000_000_000_000_000L;
-    private static final long NOT_WHOLE = -1_000_000_000_000_000_000L;
-    private static final int NO_PART = -1_000_000_000;
-    private static int wrong = 0;
-    private static int asked = 0;
-
+public final class PromisesTest extends Asking {
     public static void main(String[] args) {
         newObject();
         feeds();
@@ -52,59 +45,7 @@ public final class PromisesTest {
         keepsAndUndoes();
         checks();
         counts();
-        System.out.println(asked + " answers asked, " + wrong + " wrong");
-        if (wrong != 0) System.exit(1);
-    }
-
-    private static void due(String call, long got, long want) {
-        asked++;
-        if (got == want) return;
-        wrong++;
-        System.out.println(call + " answered " + got + ", due is " + want);
-    }
-
-    private static void due(String call, boolean got, boolean want) {
-        due(call, got ? 1 : 0, want ? 1 : 0);
-    }
-
-    private static void lay(BladesBench bench, String text) {
-        for (int at = 0; at < text.length(); at += 20) {
-            int[] words = new int[5];
-            for (int i = 0; i < 20; i++) {
-                int sign = at + i < text.length() ? text.charAt(at + i) : 0;
-                words[i / 4] = words[i / 4] << 8 | sign & 255;
-            }
-            bench.feed(words[0], words[1], words[2], words[3], words[4]);
-        }
-    }
-
-    private static int work(BladesBench bench, String text) {
-        lay(bench, text);
-        return bench.work(text.length());
-    }
-
-    private static int book(BladesBench bench, String text) {
-        lay(bench, text);
-        return bench.book(text.length());
-    }
-
-    private static int check(BladesBench bench, int... kinds) {
-        StringBuilder text = new StringBuilder();
-        for (int kind : kinds) text.append((char) kind);
-        lay(bench, text.toString());
-        return bench.check(kinds.length);
-    }
-
-    /** A new object on which a TEXT has been done. */
-    private static BladesBench made(String text) {
-        BladesBench bench = new BladesBench();
-        int answer = work(bench, text);
-        if (answer < 1) due("the test's own text " + text, answer, 1);
-        return bench;
-    }
-
-    private static void answers(String text, int want) {
-        due("work " + text, work(new BladesBench(), text), want);
+        close();
     }
 
     /** The FORM of an E has just these PARTS: pairs of a PART and its number. */
